@@ -459,6 +459,8 @@ public final class NineReaders {
     /** The tape, the TOKENS of the text on it, and the first FAULT of that text. */
     private static final class Scan {
         static final int MOST_BYTES = 1040;
+        /** So that the six letters of a WORD fit into its code, and unlike WORDS have unlike ones. */
+        static final int LETTER_BITS = 5;
 
         // A sign is a kind by its own number, all of which are above those of the WORDS.
         static final int END = 0;
@@ -521,14 +523,9 @@ public final class NineReaders {
                     word++;
                     code = 0;
                 } else {
-                    code = withLetter(code, letter);
+                    code = code << LETTER_BITS | letter - 'a' + 1;
                 }
             }
-        }
-
-        /** Six letters fit, five bits each, so unlike WORDS have unlike codes. */
-        static int withLetter(int code, int letter) {
-            return (code << 5) | (letter - 'a' + 1);
         }
 
         boolean hasRoom(int more) {
@@ -571,7 +568,7 @@ public final class NineReaders {
         }
 
         void next() {
-            while (at < length && isBlank(byteAt(at))) {
+            while (at < length && (bytes[at] == 32 || bytes[at] == 10)) {
                 at++;
             }
             place = at;
@@ -580,62 +577,46 @@ public final class NineReaders {
                 kind = NO_TOKEN;
             } else if (at >= length) {
                 kind = END;
-            } else if (isSmall(byteAt(at)) || isDigit(byteAt(at))) {
-                nextWordOrNumber();
-            } else {
-                kind = isSign(byteAt(at)) ? byteAt(at) : NO_TOKEN;
+            } else if (isSign(bytes[at])) {
+                kind = bytes[at];
                 at++;
+            } else {
+                nextWordOrNumber();
             }
         }
 
+        /** Also what is neither of them, nor a sign. */
         private void nextWordOrNumber() {
             int letters = 0;
             int digits = 0;
             value = 0;
             for (; at < length; at++) {
-                int one = byteAt(at);
-                if (isSmall(one)) {
+                int one = bytes[at];
+                if (one >= 'a' && one <= 'z') {
                     letters++;
-                    value = withLetter(value, one);
-                } else if (isDigit(one)) {
+                    value = value << LETTER_BITS | one - 'a' + 1;
+                } else if (one >= '0' && one <= '9') {
                     digits++;
                     value = value * 10 + one - '0';
                 } else {
                     break;
                 }
             }
-            if (digits == 0 && letters <= 6) {
-                kind = kindOfWord(value);
-            } else if (letters == 0 && digits <= 3) {
-                kind = NUMBER;
-            } else {
-                kind = NO_TOKEN;
-            }
-        }
-
-        private int kindOfWord(int code) {
-            for (int i = 0; i < WORDS; i++) {
-                if (wordCodes[i] == code) {
-                    return FIRST_WORD + i;
+            kind = NO_TOKEN;
+            if (digits == 0 && letters >= 1 && letters <= 6) {
+                kind = NAME;
+                for (int i = 0; i < WORDS; i++) {
+                    if (wordCodes[i] == value) {
+                        kind = FIRST_WORD + i;
+                    }
                 }
+            } else if (letters == 0 && digits >= 1 && digits <= 3) {
+                kind = NUMBER;
             }
-            return NAME;
-        }
-
-        private static boolean isBlank(int one) {
-            return one == 32 || one == 10;
-        }
-
-        private static boolean isSmall(int one) {
-            return one >= 'a' && one <= 'z';
-        }
-
-        private static boolean isDigit(int one) {
-            return one >= '0' && one <= '9';
         }
 
         private static boolean isSign(int one) {
-            return one == ';' || one == '(' || one == ')' || isComparison(one);
+            return one == ';' || one == '(' || one == ')' || one == '<' || one == '=' || one == '>';
         }
 
         static boolean isComparison(int one) {
@@ -669,7 +650,9 @@ public final class NineReaders {
             if (value < least || value > most) {
                 return fail(NOT_IN_RANGE);
             }
-            return take(NUMBER);
+            taken = value;
+            next();
+            return true;
         }
 
         /** Takes a NAME that must be one of a CHAP; its number is taken. */
@@ -799,27 +782,30 @@ public final class NineReaders {
             clear();
             // Each LINE takes a TOKEN, so there are fewer LINES than bytes.
             for (int i = 0; i < Scan.MOST_BYTES && scan.kind != Scan.END; i++) {
-                if (!readLine(scan) || !scan.take(';')) {
+                boolean good;
+                switch (scan.kind) {
+                    case Scan.CHAP:
+                        good = readChap(scan);
+                        break;
+                    case Scan.WHO:
+                        good = readReader(scan);
+                        break;
+                    case Scan.SPEED:
+                        good = readSpeed(scan);
+                        break;
+                    case Scan.AGAIN:
+                        good = readAgain(scan);
+                        break;
+                    default:
+                        good = scan.fail(Scan.CANT_COME);
+                        break;
+                }
+                if (!good || !scan.take(';')) {
                     return false;
                 }
                 lines++;
             }
             return true;
-        }
-
-        private boolean readLine(Scan scan) {
-            switch (scan.kind) {
-                case Scan.CHAP:
-                    return readChap(scan);
-                case Scan.WHO:
-                    return readReader(scan);
-                case Scan.SPEED:
-                    return readSpeed(scan);
-                case Scan.AGAIN:
-                    return readAgain(scan);
-                default:
-                    return scan.fail(Scan.CANT_COME);
-            }
         }
 
         private boolean readChap(Scan scan) {
@@ -1189,16 +1175,19 @@ public final class NineReaders {
         /** Does an ACT that is not WRONG. */
         void perform(int r, int c, int fullness, int listeners) {
             if (fullness == 0) {
-                performReading(r, c);
-            } else {
-                performTelling(r, c, fullness, listeners);
+                left[r] -= book.readTime(r, c);
+                parts[r * MOST_CHAPS + c] = partsIfRead(r, c);
+                hasRead[r] |= 1 << c;
+                return;
             }
-        }
-
-        private void performReading(int r, int c) {
-            left[r] -= book.readTime(r, c);
-            hasRead[r] |= 1 << c;
-            parts[r * MOST_CHAPS + c] = partsIfRead(r, c);
+            int takes = book.tellTime(c, fullness);
+            left[r] -= takes;
+            for (int one = 0; one < book.readers; one++) {
+                if ((listeners >> one & 1) != 0) {
+                    left[one] -= takes;
+                    hear(one, c, r, fullness);
+                }
+            }
         }
 
         /** What r would KNOW of c, if it were READ now. */
@@ -1207,23 +1196,11 @@ public final class NineReaders {
             return Math.max(parts[from + c], book.partsRead(r, book.lackAt(c, parts, from)));
         }
 
-        private void performTelling(int r, int c, int fullness, int listeners) {
-            int takes = book.tellTime(c, fullness);
-            left[r] -= takes;
-            int told = parts[r * MOST_CHAPS + c];
-            for (int one = 0; one < book.readers; one++) {
-                if ((listeners >> one & 1) != 0) {
-                    int gets = book.partsTold(told, r, fullness, one);
-                    if ((hasRead[r] >> c & 1) == 0) {
-                        gets = book.retold(gets);
-                    }
-                    left[one] -= takes;
-                    learn(one, c, gets);
-                }
+        private void hear(int r, int c, int teller, int fullness) {
+            int told = book.partsTold(parts[teller * MOST_CHAPS + c], teller, fullness, r);
+            if ((hasRead[teller] >> c & 1) == 0) {
+                told = book.retold(told);
             }
-        }
-
-        private void learn(int r, int c, int told) {
             int from = r * MOST_CHAPS;
             int gets = Book.ofMillion(told, MILLION - book.lackAt(c, parts, from));
             int had = parts[from + c];
@@ -1479,24 +1456,23 @@ public final class NineReaders {
 
         private void addChains(int k) {
             for (int c = 0; c < book.chaps; c++) {
-                int from = readersOf(c);
-                for (int r = 0; r < book.readers; r++) {
-                    if (from == 1 << r) {
-                        addChainFrom(r, c, k);
-                    }
+                int teller = readerOf(c);
+                // All others listen, if none is WRONG, before the one who has READ it comes again.
+                for (int i = 1; i < book.readers && teller != NONE; i++) {
+                    int next = teller + 1 < book.readers ? teller + 1 : 0;
+                    teller = tryAct(teller, c, k, 1 << next) ? next : NONE;
                 }
             }
         }
 
-        private void addChainFrom(int first, int c, int k) {
-            int teller = first;
-            for (int i = 1; i < book.readers; i++) {
-                int next = teller + 1 < book.readers ? teller + 1 : 0;
-                if (!tryAct(teller, c, k, 1 << next)) {
-                    return;
+        /** The one who has READ the CHAP by ROWS. */
+        private int readerOf(int c) {
+            for (int r = 0; r < book.readers; r++) {
+                if ((minds.hasRead[r] >> c & 1) != 0) {
+                    return r;
                 }
-                teller = next;
             }
+            return NONE;
         }
 
         private void addRounds(int k) {
@@ -1564,7 +1540,13 @@ public final class NineReaders {
                 }
             }
             sum = minds.sum();
-            findHelper(book, sick);
+            helper = NONE;
+            helpedSum = NONE;
+            for (int r = 0; r < book.readers; r++) {
+                if (r != sick) {
+                    offerHelp(r);
+                }
+            }
         }
 
         /** Does the ACT without the one who is gone; false: it is dropped. */
@@ -1583,21 +1565,7 @@ public final class NineReaders {
             return true;
         }
 
-        private void findHelper(Book book, int sick) {
-            helper = NONE;
-            helpedSum = NONE;
-            for (int r = 0; r < book.readers; r++) {
-                if (r != sick) {
-                    int helped = sumHelpedBy(r);
-                    if (helped > helpedSum) {
-                        helpedSum = helped;
-                        helper = r;
-                    }
-                }
-            }
-        }
-
-        private int sumHelpedBy(int r) {
+        private void offerHelp(int r) {
             int from = r * MOST_CHAPS;
             int savedLeft = minds.left[r];
             int savedRead = minds.hasRead[r];
@@ -1608,7 +1576,10 @@ public final class NineReaders {
             System.arraycopy(savedParts, 0, minds.parts, from, MOST_CHAPS);
             minds.left[r] = savedLeft;
             minds.hasRead[r] = savedRead;
-            return helped;
+            if (helped > helpedSum) {
+                helpedSum = helped;
+                helper = r;
+            }
         }
 
         private void readMissed(int r) {
@@ -1773,10 +1744,10 @@ public final class NineReaders {
             least[s][i] = TOO_MUCH;
             endOfFirst[s][i] = i;
             int over = 0;
-            int long_ = 0;
+            int length = 0;
             for (int end = i; end < book.chaps; end++) {
-                long_ += book.pages[end];
-                if (long_ > pages) {
+                length += book.pages[end];
+                if (length > pages) {
                     return;
                 }
                 for (int d = 0; d < i; d++) {
@@ -2085,32 +2056,29 @@ public final class NineReaders {
             return scan.kind == Scan.END || scan.fail(Scan.CANT_COME);
         }
 
+        /** Joins by 'and' at once, by 'or' when the ONES joined by 'and' behind it are over. */
         private boolean readCond(Scan scan, Book book, int within) {
-            if (!readAll(scan, book, within)) {
-                return false;
-            }
-            for (int i = 0; i < MOST_ONES && scan.kind == Scan.OR; i++) {
-                scan.next();
-                if (!readAll(scan, book, within)) {
-                    return false;
-                }
-                add(Scan.OR, 0, 0, 0);
-            }
-            return true;
-        }
-
-        private boolean readAll(Scan scan, Book book, int within) {
-            if (!readOne(scan, book, within)) {
-                return false;
-            }
-            for (int i = 0; i < MOST_ONES && scan.kind == Scan.AND; i++) {
-                scan.next();
+            boolean and = false;
+            boolean or = false;
+            for (int i = 0; i <= MOST_ONES; i++) {
                 if (!readOne(scan, book, within)) {
                     return false;
                 }
-                add(Scan.AND, 0, 0, 0);
+                if (and) {
+                    add(Scan.AND, 0, 0, 0);
+                }
+                and = scan.kind == Scan.AND;
+                if (!and && or) {
+                    add(Scan.OR, 0, 0, 0);
+                    or = false;
+                }
+                if (!and && scan.kind != Scan.OR) {
+                    return true;
+                }
+                or = or || !and;
+                scan.next();
             }
-            return true;
+            return false;
         }
 
         private boolean readOne(Scan scan, Book book, int within) {
