@@ -1718,13 +1718,11 @@ public final class NineReaders {
         }
 
         int stretch(Book book, int k, int pages) {
-            for (int i = 0; i <= book.chaps; i++) {
-                least[0][i] = i == book.chaps ? 0 : TOO_MUCH;
+            for (int s = 0; s <= k; s++) {
+                least[s][book.chaps] = s == 0 ? 0 : TOO_MUCH;
             }
-            for (int s = 1; s <= k; s++) {
-                for (int i = 0; i <= book.chaps; i++) {
-                    chooseEnd(book, s, i, pages);
-                }
+            for (int i = book.chaps - 1; i >= 0; i--) {
+                chooseEnds(book, k, i, pages);
             }
             if (least[k][0] >= TOO_MUCH) {
                 return NONE;
@@ -1739,10 +1737,11 @@ public final class NineReaders {
             return least[k][0];
         }
 
-        /** An N goes over a cut when the CHAP that leans is told behind the cut: it counts there, once. */
-        private void chooseEnd(Book book, int s, int i, int pages) {
-            least[s][i] = TOO_MUCH;
-            endOfFirst[s][i] = i;
+        /** An N goes over a cut when the CHAP that leans stands behind it: it counts there, and once. */
+        private void chooseEnds(Book book, int k, int i, int pages) {
+            for (int s = 0; s <= k; s++) {
+                least[s][i] = TOO_MUCH;
+            }
             int over = 0;
             int length = 0;
             for (int end = i; end < book.chaps; end++) {
@@ -1753,10 +1752,12 @@ public final class NineReaders {
                 for (int d = 0; d < i; d++) {
                     over += book.lean[end][d];
                 }
-                int together = over + least[s - 1][end + 1];
-                if (together < least[s][i]) {
-                    least[s][i] = together;
-                    endOfFirst[s][i] = end;
+                for (int s = 1; s <= k; s++) {
+                    int together = over + least[s - 1][end + 1];
+                    if (together < least[s][i]) {
+                        least[s][i] = together;
+                        endOfFirst[s][i] = end;
+                    }
                 }
             }
         }
