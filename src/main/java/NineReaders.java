@@ -1512,7 +1512,6 @@ public final class NineReaders {
         private final Minds minds;
         /** The CHAPS that the ill one would have READ, in the order of the ACTS. */
         private final int[] missed;
-        private final int[] savedParts;
         private int misses;
         int sum;
         int dropped;
@@ -1522,7 +1521,6 @@ public final class NineReaders {
         Illness(Book first) {
             minds = new Minds(first);
             missed = new int[Plan.MOST_MADE];
-            savedParts = new int[MOST_CHAPS];
         }
 
         void fall(Book book, Plan plan, int sick, int ahead) {
@@ -1565,17 +1563,11 @@ public final class NineReaders {
             return true;
         }
 
+        /** Reading changes r's own row alone, and no later helper's SUM is told by that row. */
         private void offerHelp(int r) {
-            int from = r * MOST_CHAPS;
-            int savedLeft = minds.left[r];
-            int savedRead = minds.hasRead[r];
-            System.arraycopy(minds.parts, from, savedParts, 0, MOST_CHAPS);
             int others = sum - minds.inAll(r);
             readMissed(r);
             int helped = others + minds.inAll(r);
-            System.arraycopy(savedParts, 0, minds.parts, from, MOST_CHAPS);
-            minds.left[r] = savedLeft;
-            minds.hasRead[r] = savedRead;
             if (helped > helpedSum) {
                 helpedSum = helped;
                 helper = r;

@@ -504,6 +504,13 @@ public final class PromisesTest {
         NineReaders z = withBook("chap a 9 1;chap b 1 5 on a 5;chap c 1 5 on b 5;chap d 1 9 on a 4;who p 1 0 0 3;");
         HELP.due("27: what leans goes too", z.leave(0), 11);
         HELP.due("27: what leans goes too", z.leave(1), 7);
+        // c leans strongly on both a and b: leaving either takes c along.
+        NineReaders both = withBook("chap a 1 3;chap b 1 2;chap c 1 9 on a 5 on b 5;who p 1 0 0 2;");
+        HELP.due("27: leans on both", both.leave(0), 9);
+        HELP.due("27: leans on both", both.leave(1), 4);
+        NineReaders slow = withBook("chap a 240 3;chap b 241 2;chap c 240 3;who p 1 0 0 240;");
+        HELP.due("26: all the TIME", slow.alone(0, 0), 3);
+        HELP.due("26: all the TIME", slow.alone(0, 1), 1);
     }
 
     private static void extras() {
@@ -556,6 +563,18 @@ public final class PromisesTest {
         HELP.due("30: the tenth", x.asked(), 512);
         HELP.due("29: eleven", ask(x, new int[22]), -2);
         HELP.due("30: the latest that was 0 or above", x.asked(), 512);
+        // Ten questions of one CHAP each are all needed; then nine.
+        NineReaders each = withBook(many + "who x 1 1 1 9;");
+        int[] ones = new int[20];
+        for (int i = 0; i < 10; i++) {
+            ones[2 * i] = 1 << i >> 8;
+            ones[2 * i + 1] = 1 << i & 255;
+        }
+        HELP.due("29: all ten", ask(each, ones), 10);
+        HELP.due("30: all ten", each.asked(), 1023);
+        TestHelp.plan(each, "x reads cc;");
+        HELP.due("29: nine", ask(each, ones), 9);
+        HELP.due("30: nine", each.asked(), 1019);
         NineReaders full = with("chap a 1 1;who x 1 1 1 9;", "x reads a;");
         HELP.due("29: none LACKING", ask(full, 0, 1), 0);
         HELP.due("30: none", full.asked(), 0);

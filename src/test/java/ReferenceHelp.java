@@ -116,30 +116,38 @@ final class ReferenceHelp {
     int speed = 20;
     int again = 8;
 
-    /** A BOOK by chance; 'small' keeps WORTHS and PAGES few, so that there are many like ones. */
-    ReferenceHelp(Random chance, boolean small) {
-        chaps = chance.nextInt(small ? 9 : 13);
-        readers = chance.nextInt(6);
+    static final int SMALL = 0;
+    static final int LARGE = 1;
+    static final int FULL = 2;
+
+    /** A BOOK by chance: SMALL has few PAGES and WORTHS, so many like ones; FULL all CHAPS and READERS. */
+    ReferenceHelp(Random chance, int size) {
+        chaps = size == FULL ? 16 : chance.nextInt(size == SMALL ? 9 : 13);
+        readers = size == FULL ? 9 : chance.nextInt(6);
         pages = new int[chaps];
         worth = new int[chaps];
         must = new boolean[chaps];
         lean = new int[chaps][chaps];
         for (int c = 0; c < chaps; c++) {
-            pages[c] = 1 + chance.nextInt(small ? 12 : 120);
-            worth[c] = chance.nextInt(small ? 4 : 1000);
+            pages[c] = 1 + chance.nextInt(size == SMALL ? 12 : 120);
+            worth[c] = chance.nextInt(size == SMALL ? 4 : 1000);
             must[c] = chance.nextInt(3) == 0;
             int rest = 10;
             for (int d = 0; d < c; d++) {
-                if (rest > 0 && chance.nextInt(3) == 0) {
-                    lean[c][d] = 1 + chance.nextInt(chance.nextBoolean() ? rest : Math.min(3, rest));
+                if (rest > 0 && chance.nextInt(size == FULL ? 9 : 3) == 0) {
+                    int most = chance.nextInt(3) == 0 ? 5 : chance.nextBoolean() ? 10 : 3;
+                    lean[c][d] = most == 5 && rest >= 5 ? 5 : 1 + chance.nextInt(Math.min(most, rest));
                     rest -= lean[c][d];
                 }
             }
         }
-        pace = chances(chance, 1, small ? 4 : 30);
+        pace = chances(chance, 1, size == SMALL ? 4 : 30);
         tell = chances(chance, 0, 10);
         keep = chances(chance, 2, 10);
         time = chances(chance, 0, chance.nextBoolean() ? 40 : 10);
+        if (size == FULL) {
+            time[chance.nextInt(readers)] = 240;
+        }
         skips = chances(chance, 0, 10);
         for (int r = 0; r < readers; r++) {
             skips[r] = skips[r] > 3 ? 0 : skips[r] == 3 ? chance.nextInt(11) : skips[r];

@@ -11,11 +11,32 @@ public final class ReferenceTest {
     private final Random chance;
     private final ReferenceHelp ref;
     private final NineReaders x = new NineReaders();
+    private int askedLatest;
+    private int sideLatest;
 
     private ReferenceTest(int seed) {
         chance = new Random(seed);
-        ref = new ReferenceHelp(chance, seed % 2 == 0);
+        fillRows();
+        ref = new ReferenceHelp(chance, seed % 50 == 7 ? ReferenceHelp.FULL : seed % 2);
         HELP.due("book " + ref.text(), TestHelp.book(x, ref.text()), ref.chaps + ref.readers + 2);
+    }
+
+    /** So that what a larger BOOK left in the rows could be seen. */
+    private void fillRows() {
+        ReferenceHelp large = new ReferenceHelp(chance, ReferenceHelp.FULL);
+        HELP.due("book " + large.text(), TestHelp.book(x, large.text()), 27);
+        x.make(3, 1);
+        x.run();
+        x.best(6, 4);
+        x.cut(9, 999);
+        x.alone(8, 0);
+        x.leave(0);
+        x.ill(8, 0, 0);
+        TestHelp.put(x, 255, 255, 255, 255, 255, 255, 255, 255, 255, 255, 255, 255, 255, 255, 255, 255, 255, 255, 255, 255);
+        askedLatest = x.ask() < 0 ? -1 : x.asked();
+        TestHelp.put(x, 15, 14, 13, 12, 11, 10, 9, 8, 7, 6);
+        HELP.due("net", x.net(9999) >= 0, true);
+        sideLatest = x.netSide();
     }
 
     public static void main(String[] args) {
@@ -156,11 +177,11 @@ public final class ReferenceTest {
             bytes[2 * i] = questions[i] >> 8;
             bytes[2 * i + 1] = questions[i] & 255;
         }
-        int before = x.asked();
         int want = ref.ask(questions, ref.state.lacking());
         TestHelp.put(x, bytes);
         HELP.due(name + "ask", x.ask(), want);
-        HELP.due(name + "asked", x.asked(), want < 0 ? before : ref.set);
+        HELP.due(name + "asked", x.asked(), want < 0 ? askedLatest : ref.set);
+        askedLatest = want < 0 ? askedLatest : ref.set;
     }
 
     private void searches() {
@@ -211,8 +232,10 @@ public final class ReferenceTest {
             int[] told = someOf(ref.chaps, 10);
             int pages = 1 + chance.nextInt(all);
             TestHelp.put(x, told);
-            HELP.due(name + "net", x.net(pages), ref.net(told, pages));
-            HELP.due(name + "netSide", x.netSide(), ref.side);
+            int want = ref.net(told, pages);
+            HELP.due(name + "net", x.net(pages), want);
+            sideLatest = want < 0 ? sideLatest : ref.side;
+            HELP.due(name + "netSide", x.netSide(), sideLatest);
         }
         for (int times = 0; times < 2 && ref.readers >= 2; times++) {
             int[] told = someOf(ref.readers, 7);
