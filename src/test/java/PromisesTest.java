@@ -88,6 +88,11 @@ public final class PromisesTest {
         HELP.due("3: end(8)", x.end(8), true);
         HELP.due("4: book", x.book(), 1);
         HELP.due("37: again", x.count(4), 3);
+        // What was cut off the tape is gone: "24" is no "249", which would be a FAULT of its own.
+        TestHelp.put(x, "who x 1 1 1 249;");
+        HELP.due("3: end(14)", x.end(14), true);
+        HELP.due("4: the end of the text", x.book(), -15);
+        HELP.due("5: fault", x.fault(), 1);
     }
 
     private static void factsOfTheBook() {
