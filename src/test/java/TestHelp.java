@@ -55,6 +55,35 @@ final class TestHelp {
         return x.sentence();
     }
 
+    static NineReaders withBook(String text) {
+        NineReaders x = new NineReaders();
+        if (book(x, text) < 0) {
+            throw new IllegalStateException("a wrong book in a test: " + text);
+        }
+        return x;
+    }
+
+    static NineReaders with(String book, String plan) {
+        NineReaders x = withBook(book);
+        if (plan(x, plan) < 0) {
+            throw new IllegalStateException("a wrong plan in a test: " + plan);
+        }
+        return x;
+    }
+
+    /** The LINES of the first so many of 26 CHAPS or READERS, each NAME a sort's letter and one more. */
+    static String lines(String word, String sort, int many, String facts) {
+        StringBuilder text = new StringBuilder();
+        for (int i = 0; i < many; i++) {
+            text.append(word).append(' ').append(sort).append((char) ('a' + i)).append(' ').append(facts).append(';');
+        }
+        return text.toString();
+    }
+
+    static String padded(String text, int length) {
+        return text + " ".repeat(length - text.length());
+    }
+
     void due(String call, long got, long want) {
         checks++;
         if (got != want) {
