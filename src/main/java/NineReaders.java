@@ -2063,7 +2063,6 @@ public final class NineReaders {
                 and = scan.kind == Scan.AND;
                 if (!and && or) {
                     add(Scan.OR, 0, 0, 0);
-                    or = false;
                 }
                 if (!and && scan.kind != Scan.OR) {
                     return true;

@@ -102,6 +102,8 @@ final class BehindBorders {
             "x reads a;y reads a;").all(3), 1);
         borders.due("all(3), one of nine", TestHelp.with("chap a 1 1;" + TestHelp.lines("who", "r", 9, "1 1 1 1"),
             "ri reads a;").all(3), 0);
+        borders.due("all(3), none of nine", TestHelp.withBook(TestHelp.lines("chap", "c", 16, "1 1")
+            + TestHelp.lines("who", "r", 9, "1 1 1 1")).all(3), 65535);
         borders.due("all(3), no READERS", TestHelp.withBook(TestHelp.lines("chap", "c", 16, "1 1")).all(3), 65535);
         borders.due("all(3), no CHAPS", TestHelp.withBook("who x 1 1 1 1;").all(3), 0);
     }
@@ -383,6 +385,11 @@ final class BehindBorders {
         said("read a or read b", 3);
         said("read a and read b", 0);
         said("read b and told a", 2);
+        said("read a and (told a)", 0);
+        said("read a and (told a or read a)", 1);
+        said("read a or (told a and read a)", 1);
+        said("told b or (told a)", 2);
+        said("not told b and (read b or (told b))", 2);
     }
 
     private void sentenceOnes() {
@@ -487,6 +494,13 @@ final class BehindBorders {
         // A 'not' and a bracket are each a ONE: the 20th may be no more than the beginning of one.
         noSentence("left<1 or ".repeat(19) + "not ", "a", 1);
         sentence("read a or not ".repeat(9) + "(read a)", 20);
+        // The last ones of 20 count as the others do.
+        said("told b or ".repeat(19) + "read a", 1);
+        said("told b or ".repeat(19) + "told b", 0);
+        said("left<9 and ".repeat(17) + "read b", 2);
+        said("left<9 and ".repeat(17) + "left<9", 3);
+        said("not told b and ".repeat(9) + "not read a", 2);
+        said("(told b)or ".repeat(9) + "(read b)", 2);
         noSentence("read a or not ".repeat(9) + "(not ", "read a)", 4);
         sentence("not ".repeat(7) + "read a", 8);
         noSentence("not ".repeat(8), "read a", 4);

@@ -61,6 +61,48 @@ final class KindBorders {
         borders.due("act(99, 0)", y.act(99, 0), 3);
         borders.due("act(99, 1)", y.act(99, 1), 10);
         borders.due("run()", y.run(), -1);
+        fullBooks();
+    }
+
+    /** 16 CHAPS and 9 READERS, all of them used; and 9 who have no time at all. */
+    private void fullBooks() {
+        String chaps = TestHelp.lines("chap", "c", 16, "10 1");
+        int[][] reads = new int[16][];
+        int[][] reads9 = new int[9][];
+        for (int c = 0; c < 16; c++) {
+            reads[c] = new int[] {c / 2, c};
+        }
+        for (int c = 0; c < 9; c++) {
+            reads9[c] = new int[] {c, c};
+        }
+        String two = TestHelp.lines("who", "r", 9, "10 9 9 2");
+        String one = TestHelp.lines("who", "r", 9, "10 9 9 1");
+        String none = TestHelp.lines("who", "r", 9, "10 9 9 0");
+        for (int kind = 0; kind <= 4; kind++) {
+            // By LEAN each part is READ by one with the most left: first each READER's first, then the second.
+            if (kind == 1) {
+                int[][] round = new int[16][];
+                for (int c = 0; c < 16; c++) {
+                    round[c] = new int[] {c % 9, c};
+                }
+                made(chaps + two, 1, 1, round);
+            } else if (kind != 2) {
+                made("speed 1;" + chaps + two, kind, 4, reads);
+            }
+            made("speed 1;" + chaps + one, kind, 4, reads9);
+            made("speed 1;" + chaps + none, kind, 4);
+        }
+        StringBuilder hanging = new StringBuilder("chap ca 10 1;");
+        for (int c = 1; c < 16; c++) {
+            hanging.append("chap c").append((char) ('a' + c)).append(" 10 1 on c").append((char) ('a' + c - 1)).append(" 5;");
+        }
+        made(hanging + two, 1, 5, new int[] {0, 0}, new int[] {0, 1});
+        made(hanging + TestHelp.lines("who", "r", 9, "99 9 9 16"), 1, 5, java.util.stream.IntStream.range(0, 16)
+            .mapToObj(c -> new int[] {0, c}).toArray(int[][]::new));
+        // The ninth has time for two: 16 are READ, and then the first one more.
+        int[][] last = java.util.Arrays.copyOf(reads, 17);
+        last[16] = new int[] {8, 0};
+        made(chaps + two, 2, 1, last);
     }
 
     private void rows() {

@@ -320,6 +320,10 @@ final class PromiseBorders {
         borders.due("chap(15, 0)", full.chap(15, 0), 999);
         borders.due("chap(15, 1)", full.chap(15, 1), 0);
         borders.due("chap(15, 2)", full.chap(15, 2), 1);
+        borders.due("chap(15, 3)", full.chap(15, 3), 0);
+        NineReaders few = TestHelp.withBook(TestHelp.lines("chap", "c", 14, "1 1") + "chap d 1 1 on cb 1;chap e 1 1 on ca 9 on cn 1;");
+        borders.due("chap(14, 3)", few.chap(14, 3), 1);
+        borders.due("chap(15, 3)", few.chap(15, 3), 2);
         borders.dueNone("chap(16, 0)", () -> full.chap(16, 0));
     }
 
@@ -340,6 +344,8 @@ final class PromiseBorders {
         borders.due("leans(1, 0) by ten", ten.leans(1, 0), 10);
         TestHelp.book(ten, "chap a 1 1;chap b 1 1;");
         borders.due("leans(1, 0) in the next BOOK", ten.leans(1, 0), 0);
+        TestHelp.book(ten, "chap a 1 1;chap b 1 1;");
+        borders.due("leans(1, 0) in the BOOK behind it", ten.leans(1, 0), 0);
     }
 
     private void reader() {
@@ -370,6 +376,8 @@ final class PromiseBorders {
         borders.dueNone("reader(9, 0)", () -> full.reader(9, 0));
         TestHelp.book(full, TestHelp.lines("who", "r", 9, "1 1 1 1"));
         borders.due("reader(8, 4) in the next BOOK", full.reader(8, 4), 0);
+        TestHelp.book(full, TestHelp.lines("who", "r", 9, "1 1 1 1"));
+        borders.due("reader(8, 4) in the BOOK behind it", full.reader(8, 4), 0);
     }
 
     private void plan() {
@@ -646,6 +654,10 @@ final class PromiseBorders {
         borders.due("cut(4, 999)", x.cut(4, 999), -1);
         borders.due("cut(9, 999)", x.cut(9, 999), -1);
         borders.due("cut(9, 1)", x.cut(9, 1), -1);
+        TestHelp.book(x, "chap a 5 1;chap b 5 1 on a 9;");
+        borders.due("cut(2, 5) of a smaller BOOK", x.cut(2, 5), 9);
+        borders.due("cut(1, 10) of a smaller BOOK", x.cut(1, 10), 0);
+        borders.due("cut(3, 10) of a smaller BOOK", x.cut(3, 10), -1);
         int[][] wrong = {{0, 5}, {-1, 5}, {10, 5}, {1, 0}, {1, -1}, {1, 1000}, {LEAST, 5}, {MOST, 5}, {1, LEAST}, {1, MOST}, {10, 1000}};
         for (int[] one : wrong) {
             borders.due("cut(" + one[0] + ", " + one[1] + ")", x.cut(one[0], one[1]), -2);
@@ -783,6 +795,12 @@ final class PromiseBorders {
         for (int what : new int[] {-1, 2, LEAST, MOST}) {
             borders.due("leave(" + what + ")", x.leave(what), -1);
         }
+        // In the next BOOKS, what was strongly leaned on ahead and the quick ones are gone.
+        TestHelp.book(x, "chap a 9 5;chap b 1 1 on a 9;who x 1 1 1 9;who y 9 1 1 0;");
+        borders.due("leave(0) with a quick one", x.leave(0), 0);
+        TestHelp.book(x, "chap a 9 5;chap b 1 7;who x 1 1 1 8;");
+        borders.due("leave(0)", x.leave(0), 5);
+        borders.due("leave(1)", x.leave(1), 1);
         TestHelp.book(x, "chap a 9 5;who x 1 1 1 8;");
         borders.due("leave(0)", x.leave(0), 5);
         borders.due("leave(1)", x.leave(1), 1);
@@ -1012,13 +1030,70 @@ final class PromiseBorders {
         borders.due("said()", x.said(), 1);
         // Twice the same; what is done meanwhile does not change what is kept.
         TestHelp.plan(x, "y reads b;y reads c;y reads a;");
-        TestHelp.sentence(x, "not read a");
+        TestHelp.sentence(x, "told b or total=7");
         borders.due("restore(1) once more", x.restore(1), true);
         borders.due("count(2)", x.count(2), 2);
-        borders.due("act(0, 1)", x.act(0, 1), 0);
+        int[][] acts = {{0, 0, 0, 0}, {0, 0, 4, 2}};
+        for (int i = 0; i < 2; i++) {
+            for (int what = 0; what < 4; what++) {
+                borders.due("act(" + i + ", " + what + ")", x.act(i, what), acts[i][what]);
+            }
+        }
         borders.due("said()", x.said(), 1);
         borders.due("NAMES are kept", TestHelp.plan(x, "y reads c;"), 1);
         borders.due("NAMES are kept", TestHelp.plan(x, "z reads c;"), -1);
+        restoreSentences();
+        restoreFull();
+    }
+
+    private void restoreFull() {
+        String chaps = TestHelp.lines("chap", "c", 15, "7 8 must") + "chap d 9 10 on co 3 on ca 4;";
+        String readers = TestHelp.lines("who", "r", 8, "1 2 3 4 skips 5") + "who s 6 7 8 9 skips 10;";
+        NineReaders x = TestHelp.with(chaps + readers, "s reads d;".repeat(60));
+        String sentence = "told ca or ".repeat(17) + "not told d";
+        borders.due("sentence() of 19 ONES", TestHelp.sentence(x, sentence), 19);
+        x.image(0);
+        x.image(1);
+        TestHelp.book(x, "");
+        TestHelp.book(x, "chap a 1 1;chap b 1 1 on a 1;");
+        borders.due("restore(1) of a full BOOK", x.restore(1), true);
+        borders.due("chap(15, 0)", x.chap(15, 0), 9);
+        borders.due("chap(14, 2)", x.chap(14, 2), 1);
+        borders.due("leans(15, 14)", x.leans(15, 14), 3);
+        borders.due("leans(15, 0)", x.leans(15, 0), 4);
+        borders.due("leans(1, 0)", x.leans(1, 0), 0);
+        borders.due("reader(8, 4)", x.reader(8, 4), 10);
+        borders.due("reader(7, 3)", x.reader(7, 3), 4);
+        borders.due("count(2)", x.count(2), 60);
+        borders.due("act(59, 0)", x.act(59, 0), 8);
+        borders.due("act(59, 1)", x.act(59, 1), 15);
+        borders.due("said()", x.said(), 511);
+        x.make(3, 1);
+        x.image(0);
+        int acts = x.count(2);
+        x.make(0, 0);
+        borders.due("restore(0)", x.restore(0), true);
+        borders.due("count(2) of a PLAN that was made", x.count(2), acts);
+    }
+
+    /** x KNOWS all of a, y 800000 of it; x has 2 left, y 4. */
+    private void restoreSentences() {
+        String[] texts = {"read a", "told a", "knows a > 79", "knows a < 99", "knows a = 80", "total = 80", "left < 4", "count < 1",
+            "not (told a or read a)", "knows a > 80 and left = 2", "left = 4 or left = 2"};
+        int[] due = {1, 2, 3, 2, 2, 2, 1, 2, 0, 1, 3};
+        String[] others = {"told b", "left = 999", "read c and knows b = 3 or total < 2"};
+        for (int i = 0; i < texts.length; i++) {
+            for (String other : others) {
+                NineReaders x = withAll();
+                TestHelp.sentence(x, texts[i]);
+                x.image(0);
+                TestHelp.sentence(x, other);
+                x.image(1);
+                TestHelp.sentence(x, other);
+                borders.due("restore(0) with " + texts[i], x.restore(0), true);
+                borders.due("said() of " + texts[i] + " behind " + other, x.said(), due[i]);
+            }
+        }
     }
 
     private void restoreLeaves() {

@@ -1,7 +1,7 @@
 /** Terms, part 2: what READING and TELLING give and take, RUN, a PLAN's text, what is KNOWN in all. */
 final class RunBorders {
     private static final String LEANING = "chap a 1 0;chap b 1 0 on a 10;chap c 1 0 on b 5;chap d 1 0 on c 1;chap e 1 0 on d 1;"
-        + "chap f 1 0 on e 3;chap g 1 0 on e 4 on f 3;"
+        + "chap f 1 0 on e 3;chap g 1 0 on e 4 on f 3;chap h 1 0 on g 1 on f 5;"
         + "who x 9 7 10 99;who y 9 9 7 99 skips 3;who z 9 10 9 99;again 3;";
     private static final String PAIR = "chap a 1 1;chap b 1 1;who x 1 1 1 1;who y 1 1 1 1;";
 
@@ -78,6 +78,8 @@ final class RunBorders {
         known(LEANING, upToE + "x reads f;", 0, 5, 999954);
         // 4 times 312 and 3 times 46 are 1386, by 10 138; each by 10 would be 124 and 13.
         known(LEANING, upToE + "x reads f;x reads g;", 0, 6, 999931);
+        // 69 and 5 times 46 are 299, by 10 29, half of it 14; rounded 30 would be 999985.
+        known(LEANING, upToE + "x reads f;x reads g;x reads h;", 0, 7, 999986);
         // d leans on c, c on b: what c leans on is no LACK at d.
         known("chap a 1 0;chap b 1 0 on a 10;chap c 1 0 on b 5;who x 9 1 1 9;", "x reads b;x reads c;", 0, 2, 875000);
     }

@@ -78,6 +78,9 @@ final class SearchBorders {
         best("chap a 2 1;chap b 1 100 on a 10;who x 1 0 0 1;", 2, 1, 50, -1, 0);
         best("chap a 2 1;chap b 1 100 on a 10;who x 1 0 0 3;", 2, 1, 101, 0, 0);
         best("chap a 1 100;who x 1 0 0 1 skips 3;", 1, 1, 70, 0);
+        // a might be READ, but b is, with all of LACK: for the one who READS it, and for the one who is told.
+        best("chap a 1 1;chap b 1 100 on a 10;who x 1 0 0 1;", 2, 1, 50, -1, 0);
+        best("chap a 1 1;chap b 1 100 on a 10;who x 1 0 10 0;who y 1 10 10 1;", 2, 2, 50, -1, 1);
     }
 
     private void bestTold() {
@@ -101,6 +104,7 @@ final class SearchBorders {
         best("chap a 1 5;chap b 1 6;who x 1 0 0 1;", 2, 1, 6, -1, 0);
         best("chap a 1 5;chap b 1 5;who x 1 9 9 1;who y 1 9 9 1;", 2, 2, 18, 0, 1);
         best("chap a 1 5;who x 1 9 9 0;who y 1 9 9 1;who z 1 9 9 1;", 1, 3, 13, 1);
+        best("chap a 1 10;chap b 1 10;chap c 1 10;who x 1 0 10 9;who y 1 10 10 9;", 3, 2, 60, 1, 1, 1);
         best("chap a 1 5;who x 1 0 9 9;who y 1 0 9 9;who z 1 0 9 9;who w 1 1 9 9;", 1, 4, 5, 0);
         best("chap a 1 50;who x 1 0 9 9;who y 1 0 9 9;who z 1 0 9 9;who w 1 1 9 9;", 1, 4, 62, 3);
         // With no WORTH at all, reading is as good as none, and comes first.
@@ -312,6 +316,11 @@ final class SearchBorders {
         alone("chap a 1 2;chap b 1 3;chap c 2 5;chap d 1 0;who x 1 1 1 2;", 5, 3);
         alone("chap a 2 5;chap b 1 2;chap c 1 3;chap d 1 0;who x 1 1 1 2;", 5, 1);
         alone("chap a 1 0;who x 1 1 1 2;", 0, 0);
+        // What another READER has time for counts for nothing, nor what was asked ahead.
+        NineReaders x = TestHelp.withBook("chap a 1 1;chap b 9 2;chap c 9 3;who x 9 1 1 9;who y 1 1 1 2;");
+        borders.due("alone(0, 1) of a quick one", x.alone(0, 1), 7);
+        borders.due("alone(1, 1) of a slow one", x.alone(1, 1), 1);
+        borders.due("alone(1, 0) of a slow one", x.alone(1, 0), 1);
         alone(TestHelp.lines("chap", "c", 16, "15 999") + "who x 1 1 1 240;", 16 * 999, 65535);
         alone(TestHelp.lines("chap", "c", 16, "15 999") + "who x 1 1 1 239;", 15 * 999, 32767);
     }

@@ -334,9 +334,32 @@ final class TextBorders {
         noBook("who c 1 1 1 1;who d 1 1 1 1;who ", "c 1 1 1 1;", 3);
         noBook("chap a 1 1;who c 1 1 1 1;who ", "a 1 1 1 1;", 3);
         noBook("chap a 1 1;who c 1 1 1 1;chap ", "c 1 1;", 3);
+        unlikeNames();
+        // A NUMBER is no NAME, whichever it is.
+        for (int number = 0; number <= 999; number += number < 30 ? 1 : 97) {
+            noBook("chap a 1 1;who b 1 1 1 1;chap ", number + " 1 1;", 1);
+            noBook("chap a 1 1;who b 1 1 1 1;who ", number + " 1 1 1 1;", 1);
+        }
         // In the next BOOK it may be told again.
         NineReaders x = TestHelp.withBook("chap a 1 1;");
         borders.due("a NAME of the BOOK ahead", TestHelp.book(x, "who a 1 1 1 1;"), 1);
+    }
+
+    /** Unlike in one letter, at each of six places, or in their lengths alone, NAMES are unlike. */
+    private void unlikeNames() {
+        for (int place = 0; place < 6; place++) {
+            StringBuilder text = new StringBuilder();
+            for (char letter = 'a'; letter < 'a' + 25; letter++) {
+                String name = "z".repeat(place) + letter + "z".repeat(5 - place);
+                text.append(letter < 'q' ? "chap " + name + " 1 1;" : "who " + name + " 1 1 1 1;");
+            }
+            book(text.toString(), 25);
+        }
+        StringBuilder lengths = new StringBuilder();
+        for (int length = 1; length <= 6; length++) {
+            lengths.append("chap ").append("a".repeat(length)).append(" 1 1;who ").append("p".repeat(length)).append(" 1 1 1 1;");
+        }
+        book(lengths + "chap ap 1 1;chap pa 1 1;chap aap 1 1;chap app 1 1;chap apa 1 1;", 17);
     }
 
     private void howMany() {
@@ -390,6 +413,15 @@ final class TextBorders {
         noBook("speed 5 ", "", 1);
         noBook(TestHelp.padded("speed 5", 999), "", 1);
         noBook(TestHelp.padded("speed 5", 1000), "", 1);
+        // The same TOKEN might come again, but this is none.
+        for (String no : new String[] {".", "9a", "a9", "abcdefg", "1000", "A"}) {
+            noSentence("not ", no, 1);
+            noSentence("(", no, 1);
+            noSentence("not read a or not ", no, 1);
+            noPlan("x tells a 4 to y ", no + ";", 1);
+            noPlan("x reads a;", no + " reads a;", 1);
+            noBook("chap a 1 1;", no, 1);
+        }
         noPlan("x reads a", "", 1);
         noPlan("x reads a\n ", "", 1);
         noSentence("read a or", "", 1);
@@ -420,6 +452,11 @@ final class TextBorders {
         borders.due("a sign at 1000", faultPlace(TestHelp.padded("speed ", 998) + "99;"), 1000);
         noPlan(TestHelp.padded("x reads a;", 700), " ", 1);
         plan(TestHelp.padded("x reads a;", 700), 1);
+        // At the bound, what came last does not come once more.
+        noPlan(TestHelp.padded("x tells a 4 to y", 700), " ", 1);
+        noPlan(TestHelp.padded("x tells a 4 to", 699) + " ", "y;", 1);
+        noSentence(TestHelp.padded("not", 200), " ", 1);
+        noSentence(TestHelp.padded("(", 200), "read a)", 1);
         noSentence(TestHelp.padded("read a", 200), " ", 1);
         sentence(TestHelp.padded("read a", 200), 1);
     }
