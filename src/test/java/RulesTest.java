@@ -17,6 +17,17 @@ public final class RulesTest {
     private static final String FACE = "feed end book fault chap leans reader plan make drawn act run why known after all best"
         + " bestOf cut cutAt net netSide chain chainAt alone leave extra ask asked seen ill sentence said image restore count";
 
+    private static final Pattern LIBRARY = Pattern.compile("\\b([A-Z]\\w*\\.\\w+)\\(");
+    private static final Set<String> OPEN = Set.of("Math.max", "Math.min", "Integer.bitCount", "System.arraycopy",
+        "SPELLED.length", "SPELLED.charAt");
+    private static final Set<String> INSIDE = new TreeSet<>();
+
+    static {
+        for (Class<?> one : NineReaders.class.getDeclaredClasses()) {
+            INSIDE.add(one.getSimpleName());
+        }
+    }
+
     public static void main(String[] args) throws IOException {
         face();
         Path file = Path.of(System.getProperty("root", "."), "src", "main", "java", "NineReaders.java");
@@ -46,7 +57,9 @@ public final class RulesTest {
         }
         Class<?>[] inside = NineReaders.class.getDeclaredClasses();
         HELP.due("at most twelve classes", inside.length < 12, true);
+        fields(NineReaders.class);
         for (Class<?> one : inside) {
+            fields(one);
             HELP.due("static: " + one, Modifier.isStatic(one.getModifiers()), true);
             for (Method method : one.getDeclaredMethods()) {
                 HELP.due("a public one's name: " + method, want.contains(method.getName()), false);
@@ -58,6 +71,22 @@ public final class RulesTest {
         }
     }
 
+    /** Numbers, truth and own classes, in one dimension, numbers in two; a constant may be a text. */
+    private static void fields(Class<?> one) {
+        int fields = 0;
+        for (Field field : one.getDeclaredFields()) {
+            boolean constant = Modifier.isStatic(field.getModifiers());
+            Class<?> type = field.getType();
+            boolean rows = type.isArray() && type.getComponentType().isArray();
+            Class<?> part = rows ? type.getComponentType().getComponentType() : type.isArray() ? type.getComponentType() : type;
+            boolean own = part.getDeclaringClass() == NineReaders.class;
+            HELP.due("of a type that may be: " + field, part.isPrimitive() || own && !rows || constant && part == String.class, true);
+            HELP.due("a constant that is an object: " + field, constant && (own || type.isArray()), false);
+            fields += constant ? 0 : 1;
+        }
+        HELP.due("at most some twenty fields: " + one, fields <= 20, true);
+    }
+
     private static void words(List<String> lines) {
         String[] never = {"->", "::", "\\bfinally\\b", "\\bcatch\\b", "\\bsynchronized\\b", "\\bassert\\b", "static \\{",
             "Exact\\(", "\"\\s*\\+", "\\+\\s*\"", "\\bdouble\\b", "\\bfloat\\b", "while \\(true\\)", "for \\(;;",
@@ -66,6 +95,11 @@ public final class RulesTest {
             String line = lines.get(i);
             for (String one : never) {
                 HELP.due("line " + (i + 1) + " has " + one, Pattern.compile(one).matcher(line).find(), false);
+            }
+            Matcher call = LIBRARY.matcher(line);
+            while (call.find()) {
+                boolean known = OPEN.contains(call.group(1)) || INSIDE.contains(call.group(1).split("\\.")[0]);
+                HELP.due("line " + (i + 1) + " calls " + call.group(1), known, true);
             }
             for (int at = 0; at < line.length(); at++) {
                 HELP.due("line " + (i + 1) + " has a sign above 127", line.charAt(at) < 128, true);

@@ -20,6 +20,14 @@ final class TestHelp {
         }
     }
 
+    static int word(byte[] bytes, int at) {
+        int word = 0;
+        for (int i = at; i < at + 4; i++) {
+            word = word << 8 | (i < bytes.length ? bytes[i] & 255 : 0);
+        }
+        return word;
+    }
+
     static void put(NineReaders x, String text) {
         put(x, text.getBytes(StandardCharsets.ISO_8859_1));
     }
@@ -30,14 +38,6 @@ final class TestHelp {
             row[i] = (byte) bytes[i];
         }
         put(x, row);
-    }
-
-    static int word(byte[] bytes, int at) {
-        int word = 0;
-        for (int i = at; i < at + 4; i++) {
-            word = word << 8 | (i < bytes.length ? bytes[i] & 255 : 0);
-        }
-        return word;
     }
 
     static int book(NineReaders x, String text) {
